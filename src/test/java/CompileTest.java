@@ -24,6 +24,7 @@ public final class CompileTest {
         made("", 15, 0);
         made("z=7;", 0, 7, 2, 25, 15, 0);
         made("row r:0;r[3]=b;", 0, 3, 1, 1, 4, 17, 15, 0);
+        made("row r:0;a=2;r[3]=b;r[1]=4;", 0, 2, 2, 0, 0, 3, 1, 1, 4, 17, 0, 1, 0, 4, 4, 17, 15, 0);
         made("in c:4;", 13, 4, 2, 2, 15, 0);
         made("out a:5;", 1, 0, 14, 5, 15, 0);
         made("a=999999999;", 0, 999999999, 2, 0, 15, 0);
@@ -80,6 +81,17 @@ public final class CompileTest {
         due.fails("120 and HALT", Due.BOUNDS, z::compile);
         due.told("120 and HALT", 64, 10, z);
         doubling(z);
+        again(z);
+    }
+
+    /** What one text needs is free for the next one. */
+    private static void again(FlowChain z) {
+        for (int round = 0; round < 8; round++) {
+            Due.put(z, Due.times("a=b+c*d-e;", 6));
+            due.is("a long text again", 49, z::compile);
+            due.is("its last operation", 6, () -> z.instruction(46, false));
+            due.is("its last x", 4, () -> z.instruction(45, true));
+        }
     }
 
     /** Each PROC does the one before it four times: 65536 times in all. */

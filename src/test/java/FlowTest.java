@@ -5,6 +5,7 @@ public final class FlowTest {
     public static void main(String[] args) {
         plain();
         rows();
+        depth();
         inputsAndOutputs();
         levels();
         branches();
@@ -67,6 +68,19 @@ public final class FlowTest {
         bad("row r:1;row s:0;!s[r[0]]=0;");
         good("row r:1;row s:2;s[r[0]]=r[1];");
         good("row r:1;a=r[0];a=0;out a:0;");
+        bad("row a:1;!out a[0]:0;");
+        bad("row z:1;!out z[0]:0;");
+        good("row a:1;in b:1;a[0]=b;");
+    }
+
+    /** As deep as 240 signs go: IFS within IFS, and PROCS within PROCS. */
+    private static void depth() {
+        String open = Due.times("if1{", 7);
+        String shut = Due.times("}", 8);
+        String procs = "proc b{" + open + "do a;" + shut + "proc c{" + open + "do b;" + shut;
+        bad("var h:1;proc a{" + open + "!out h:0;" + shut + procs + "if1{" + open + "do c;" + shut);
+        bad("var h:1;proc a{" + Due.times("if1{", 6) + "if h{x=1;}" + shut.substring(1) + procs
+                + open + "do c;" + shut.substring(1) + "!out x:0;");
     }
 
     private static void inputsAndOutputs() {

@@ -13,6 +13,7 @@ public final class MachineTest {
         fuelOfRun();
         fuelOfWalk();
         startsAnew();
+        deep();
         due.end();
     }
 
@@ -216,6 +217,12 @@ public final class MachineTest {
         }
         high[60] = 15;
         due.is("a stack of 30", 0, () -> runs(x, high));
+        due.is("a fault upon a stack", 1, () -> runs(x, 0, 5, 0, 1, 0, 0, 8, 0, 15, 0));
+        due.is("the stack is empty then", 0, () -> runs(x, high));
+        high[58] = 2;
+        high[59] = 7;
+        due.is("30 PUSHes but one", 0, () -> runs(x, high));
+        due.is("the last of them", 28, () -> x.value(7));
     }
 
     private static void fuelOfRun() {
@@ -274,6 +281,15 @@ public final class MachineTest {
         FlowChain y = Due.compiled(Due.chain(2), "a=1;b=1/0;");
         due.is("a fault with the last FUEL", 1, () -> y.walk(2));
         due.is("its STATEMENT is counted", 2, () -> y.count(6));
+    }
+
+    private static void deep() {
+        String open = Due.times("if1{", 7);
+        String shut = Due.times("}", 8);
+        both("proc b{" + open + "a=2;" + shut + "proc c{" + open + "do b;" + shut + "proc d{" + open + "do c;" + shut
+                + "if1{" + open + "do d;" + shut + "x=1;", 0, 2);
+        both("if0{}else{if0{}else{if0{}else{if0{}else{if0{}else{if0{}else{if0{}else{if0{}else{a=5;}}}}}}}}", 0, 5);
+        both(Due.times("while a<1{", 8) + "a=1;" + shut, 0, 1);
     }
 
     private static void startsAnew() {

@@ -269,5 +269,13 @@ public final class TextTest {
         due.is("an empty text", 1, x::compile);
         due.told("no failure any more", -1, -1, x);
         due.code("an empty program", x, 15, 0);
+        Due.put(x, "if 1{if 1{if 1{a=((1");
+        due.fails("bad with some open", Due.ELEMENT, x::compile);
+        Due.put(x, Due.times("if 1{", 8) + Due.times("}", 8));
+        due.is("none is open in the next text", 17, x::compile);
+        Due.put(x, "proc p{}row r:0;var v:0;p");
+        due.fails("bad with some declared", Due.ELEMENT, x::compile);
+        Due.put(x, "r=p+v;");
+        due.is("none is declared in the next text", 5, x::compile);
     }
 }

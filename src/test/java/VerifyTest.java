@@ -13,6 +13,8 @@ public final class VerifyTest {
         mapLimits();
         levels();
         regions();
+        farRegions();
+        again();
         regionLimits();
         whenMapsStay();
         due.end();
@@ -150,6 +152,23 @@ public final class VerifyTest {
         due.is("TO with a ROW as high", 4, y::verify);
         y.fix(1, false, 2);
         bad("TO with a high value", 2, 6, y);
+        FlowChain z = coded(13, 1, 2, 0, 15, 0);
+        z.fix(0, false, 0);
+        bad("STORE to the first FIXED one", 1, 6, z);
+        z.fix(0, false, -1);
+        z.fix(25, false, 1);
+        z.clear();
+        Due.coded(z, 13, 1, 2, 25, 15, 0);
+        z.fix(25, false, 0);
+        bad("STORE to the last FIXED one", 1, 6, z);
+        z.clear();
+        z.fix(0, true, 1);
+        Due.coded(z, 0, 0, 3, 0, 14, 0, 15, 0);
+        bad("AT of the first ROW", 2, 6, z);
+        z.clear();
+        z.fix(0, true, 1);
+        Due.coded(z, 0, 0, 13, 1, 4, 0, 15, 0);
+        due.is("TO the first ROW", 4, z::verify);
         bad("OUT", 1, 6, 13, 1, 14, 0, 15, 0);
         good("OUT to the same", 3, 13, 1, 14, 1, 15, 0);
         good("OUT to a higher one", 3, 13, 1, 14, 2, 15, 0);
@@ -298,6 +317,42 @@ public final class VerifyTest {
         region("its second ZERO", verified(1, 0, 11, 4, 1, 1, 11, 0, 15, 0), 3, 4, 0, 1, 2, 3);
         region("a ZERO out of the loop by a second HALT",
                 verified(1, 0, 11, 6, 1, 1, 11, 7, 0, 0, 11, 0, 15, 0, 15, 0), 1, -1, 0, 1, 2, 3, 4, 5, 6, 7);
+    }
+
+    private static void farRegions() {
+        // a way by INSTRUCTION 0, which has another way to the HALT
+        region("over the first", verified(1, 0, 11, 6, 1, 1, 11, 0, 0, 0, 2, 0, 15, 0), 3, 6, 0, 1, 2, 3, 4, 5);
+        region("NEXT is the first", verified(1, 0, 11, 3, 15, 0, 1, 1, 11, 6, 12, 0, 12, 0), 4, 0, 5, 6);
+        int[] whole = new int[128];
+        java.util.Arrays.fill(whole, 15);
+        whole[0] = 1;
+        whole[2] = 11;
+        whole[3] = 63;
+        region("the last is in it", verified(whole), 1, -1, 2, 63);
+    }
+
+    /** What an earlier VERIFYING found is not in the next one. */
+    private static void again() {
+        FlowChain x = verified(13, 2, 11, 4, 0, 1, 2, 0, 15, 0, 12, 5);
+        due.is("a LEVEL", 2, () -> x.map(2, 26));
+        x.clear();
+        Due.coded(x, 0, 1, 11, 3, 0, 1, 2, 0, 12, 4, 15, 0);
+        due.fails("a fault", Due.UNSUPPORTED, x::verify);
+        due.told("a fault", 2, 5, x);
+        x.clear();
+        Due.coded(x, 1, 0, 11, 3, 12, 2, 1, 0, 11, 6, 12, 5, 15, 0);
+        due.is("another code", 7, x::verify);
+        for (int i = 0; i < 7; i++) {
+            int at = i;
+            due.is("no LEVEL", 0, () -> x.map(at, 26));
+            due.is("no LABEL", 0, () -> x.map(at, 0));
+        }
+        region("a new HALT", x, 1, 3, 2);
+        region("a new HALT", x, 4, 6, 5);
+        x.clear();
+        Due.coded(x, 1, 0, 11, 3, 12, 2, 12, 4, 12, 5, 12, 6, 12, 3);
+        due.is("no HALT any more", 7, x::verify);
+        region("no old HALT", x, 1, -1, 2, 3, 4, 5, 6);
     }
 
     private static void regionLimits() {
