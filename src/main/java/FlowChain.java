@@ -352,7 +352,7 @@ public final class FlowChain {
         Code oldCode = code;
         code = spareCode;
         spareCode = oldCode;
-        System.arraycopy(program.marks, 0, marks, 0, marks.length);
+        program.copyMarks(marks);
         forgetFindings();
         hasProgram = true;
     }
@@ -475,6 +475,7 @@ public final class FlowChain {
         int unfitPair() {
             int mutual = NONE;
             int unbound = NONE;
+            // from the last pair to the first, so that the first one is what stays
             for (int a = size - 1; a >= 0; a--) {
                 for (int b = size - 1; b > a; b--) {
                     if (leads(a, b) && leads(b, a)) {
@@ -525,24 +526,26 @@ public final class FlowChain {
         int name;
         int mark;
         /** Its Es are operations from .. to - 1 of the PROGRAM. */
-        int from;
+        final int from;
         int to;
         Statement block;
         Statement elseBlock;
         boolean hasElse;
         Statement next;
 
-        Statement(int kind, int place) {
+        Statement(int kind, int place, int from) {
             this.kind = kind;
             this.place = place;
+            this.from = from;
+            to = from;
         }
     }
 
     /** What was read: STATEMENTS, and their Es as operations in the order in which they are done. */
     private static final class Program {
-        final int[] marks = new int[2 * NAMES];
-        final Statement[] procs = new Statement[NAMES];
         Statement first;
+        private final Statement[] procs = new Statement[NAMES];
+        private final int[] marks = new int[2 * NAMES];
         private final int[] operations = new int[MOST_SIGNS];
         private final int[] arguments = new int[MOST_SIGNS];
         private int size;
@@ -576,12 +579,29 @@ public final class FlowChain {
             return i >= 0 && i < size ? arguments[i] : 0;
         }
 
+        /** LABELS of VARIABLES, then of ROWS. */
+        void setMark(int i, int mark) {
+            if (i >= 0 && i < 2 * NAMES) {
+                marks[i] = mark;
+            }
+        }
+
+        void copyMarks(int[] into) {
+            System.arraycopy(marks, 0, into, 0, Math.min(marks.length, into.length));
+        }
+
         int variableMark(int name) {
             return name >= 0 && name < NAMES ? marks[name] : NONE;
         }
 
         int rowMark(int name) {
             return name >= 0 && name < NAMES ? marks[NAMES + name] : NONE;
+        }
+
+        void setProc(int name, Statement block) {
+            if (name >= 0 && name < NAMES) {
+                procs[name] = block;
+            }
         }
 
         Statement proc(int name) {
@@ -681,15 +701,15 @@ public final class FlowChain {
             advance();
             int name = takeNewName(role);
             take(':');
-            program.marks[offset + name] = takeLabel();
+            program.setMark(offset + name, takeLabel());
             take(';');
         }
 
         private void readProc() {
             advance();
             int name = takeNewName(OPEN_PROC);
-            program.procs[name] = readBlock();
-            roles[name] = PROC;
+            program.setProc(name, readBlock());
+            setRole(name, PROC);
         }
 
         private Statement readBlock() {
@@ -734,9 +754,9 @@ public final class FlowChain {
         }
 
         private Statement readIf() {
-            Statement made = new Statement(IF, place);
+            Statement made = start(IF);
             advance();
-            readItsExpression(made);
+            made.to = readExpression();
             made.block = readBlock();
             if (isWord("else")) {
                 advance();
@@ -747,15 +767,15 @@ public final class FlowChain {
         }
 
         private Statement readWhile() {
-            Statement made = new Statement(WHILE, place);
+            Statement made = start(WHILE);
             advance();
-            readItsExpression(made);
+            made.to = readExpression();
             made.block = readBlock();
             return made;
         }
 
         private Statement readIn() {
-            Statement made = new Statement(IN, place);
+            Statement made = start(IN);
             advance();
             made.name = takeName(VARIABLE);
             take(':');
@@ -765,9 +785,9 @@ public final class FlowChain {
         }
 
         private Statement readOut() {
-            Statement made = new Statement(OUT, place);
+            Statement made = start(OUT);
             advance();
-            readItsExpression(made);
+            made.to = readExpression();
             take(':');
             made.mark = takeLabel();
             take(';');
@@ -775,7 +795,7 @@ public final class FlowChain {
         }
 
         private Statement readDo() {
-            Statement made = new Statement(DO, place);
+            Statement made = start(DO);
             advance();
             made.name = takeName(PROC);
             take(';');
@@ -783,33 +803,31 @@ public final class FlowChain {
         }
 
         private Statement readSetting() {
-            Statement made = new Statement(STORE, place);
+            Statement made = start(STORE);
             made.name = takeName(VARIABLE);
             take('=');
-            readItsExpression(made);
+            made.to = readExpression();
             take(';');
             return made;
         }
 
         private Statement readRowSetting() {
-            Statement made = new Statement(TO, place);
+            Statement made = start(TO);
             made.name = takeName(ROW);
-            made.from = program.size();
             readIndex();
             take('=');
-            readExpression();
-            made.to = program.size();
+            made.to = readExpression();
             take(';');
             return made;
         }
 
-        private void readItsExpression(Statement made) {
-            made.from = program.size();
-            readExpression();
-            made.to = program.size();
+        /** A STATEMENT that begins with the TOKEN here. */
+        private Statement start(int kind) {
+            return new Statement(kind, place, program.size());
         }
 
-        private void readExpression() {
+        /** Answers where its operations end. */
+        private int readExpression() {
             readSum();
             int operation = token == '<' ? LESS : token == '=' ? SAME : NONE;
             if (operation != NONE) {
@@ -817,6 +835,7 @@ public final class FlowChain {
                 readSum();
                 program.add(operation, 0);
             }
+            return program.size();
         }
 
         private void readSum() {
@@ -863,16 +882,19 @@ public final class FlowChain {
         }
 
         private void openWith(int sign) {
-            if (open >= MOST_OPEN) {
+            if (token != sign || open >= MOST_OPEN) {
                 throw new NoSuchElementException();
             }
-            take(sign);
             open++;
+            advance();
         }
 
         private void closeWith(int sign) {
-            take(sign);
+            if (token != sign) {
+                throw new NoSuchElementException();
+            }
             open--;
+            advance();
         }
 
         private void take(int sign) {
@@ -896,19 +918,25 @@ public final class FlowChain {
             return token == WORD && value >= 0 && value < NAMES ? roles[value] : NONE;
         }
 
+        private void setRole(int name, int role) {
+            if (name >= 0 && name < NAMES) {
+                roles[name] = role;
+            }
+        }
+
         private int takeNewName(int role) {
             if (roleHere() != UNMET) {
                 throw new NoSuchElementException();
             }
             int name = value;
-            roles[name] = role;
+            setRole(name, role);
             advance();
             return name;
         }
 
         private int takeName(int role) {
             if (role == VARIABLE && roleHere() == UNMET) {
-                roles[value] = VARIABLE;
+                setRole(value, VARIABLE);
             }
             if (roleHere() != role) {
                 throw new NoSuchElementException();
@@ -919,64 +947,55 @@ public final class FlowChain {
         }
 
         private boolean isWord(String word) {
-            if (token != WORD || behind - place != word.length()) {
-                return false;
+            boolean is = token == WORD && behind - place == word.length();
+            for (int k = 0; is && k < word.length(); k++) {
+                is = place + k < length && signs[place + k] == word.charAt(k);
             }
-            for (int k = 0; k < word.length(); k++) {
-                if (signAt(place + k) != word.charAt(k)) {
-                    return false;
-                }
-            }
-            return true;
-        }
-
-        /** A blank behind the end, which is in no TOKEN. */
-        private char signAt(int i) {
-            return i >= 0 && i < length ? signs[i] : ' ';
-        }
-
-        private static boolean isLetter(char sign) {
-            return sign >= 'a' && sign <= 'z';
-        }
-
-        private static boolean isDigit(char sign) {
-            return sign >= '0' && sign <= '9';
+            return is;
         }
 
         private void advance() {
             place = behind;
-            while (place < length && signAt(place) == ' ') {
+            while (place < length && signs[place] == ' ') {
                 place++;
             }
-            behind = place;
-            char sign = signAt(place);
-            if (place >= length) {
-                token = END;
-            } else if (isLetter(sign)) {
-                advanceOverWord();
-            } else if (isDigit(sign)) {
-                advanceOverNumber();
-            } else {
-                token = LONE_SIGNS.indexOf(sign) >= 0 ? sign : UNKNOWN;
-                behind = place + 1;
-            }
-        }
-
-        private void advanceOverWord() {
-            token = WORD;
-            while (behind < length && isLetter(signAt(behind))) {
+            token = kindAt(place);
+            behind = Math.min(place + 1, length);
+            boolean isLong = token == WORD || token == NUMBER;
+            while (isLong && behind < length && kindAt(behind) == token) {
                 behind++;
             }
-            value = behind - place == 1 ? signAt(place) - 'a' : NONE;
+            if (token == NUMBER && behind - place > MOST_DIGITS) {
+                token = UNKNOWN;
+            }
+            value = token == NUMBER ? numberHere() : token == WORD ? nameHere() : NONE;
         }
 
-        private void advanceOverNumber() {
-            value = 0;
-            while (behind < length && isDigit(signAt(behind))) {
-                value = 10 * value + (signAt(behind) - '0');
-                behind++;
+        /** The kind of the TOKEN that has the sign at i. */
+        private int kindAt(int i) {
+            if (i < 0 || i >= length) {
+                return END;
             }
-            token = behind - place <= MOST_DIGITS ? NUMBER : UNKNOWN;
+            char sign = signs[i];
+            if (sign >= 'a' && sign <= 'z') {
+                return WORD;
+            }
+            if (sign >= '0' && sign <= '9') {
+                return NUMBER;
+            }
+            return LONE_SIGNS.indexOf(sign) >= 0 ? sign : UNKNOWN;
+        }
+
+        private int numberHere() {
+            int number = 0;
+            for (int i = place; i < behind && i < length; i++) {
+                number = 10 * number + (signs[i] - '0');
+            }
+            return number;
+        }
+
+        private int nameHere() {
+            return behind - place == 1 && place < length ? signs[place] - 'a' : NONE;
         }
     }
 
@@ -1019,17 +1038,15 @@ public final class FlowChain {
                     case STORE: set(s, s.name, level | shadeOf(s)); break;
                     case TO: demand(s, level | shadeOf(s), program.rowMark(s.name)); break;
                     case OUT: demand(s, level | shadeOf(s), s.mark); break;
-                    case IN: goOverIn(s, level); break;
+                    case IN:
+                        demand(s, level, s.mark);
+                        set(s, s.name, lattice.shade(s.mark));
+                        break;
                     case IF: goOverIf(s, level | shadeOf(s), depth); break;
                     case WHILE: goOverWhile(s, level, depth); break;
                     default: goThrough(program.proc(s.name), level, depth + 1); break;
                 }
             }
-        }
-
-        private void goOverIn(Statement s, int level) {
-            demand(s, level, s.mark);
-            set(s, s.name, lattice.shade(s.mark));
         }
 
         private void goOverIf(Statement s, int level, int depth) {
@@ -1435,15 +1452,12 @@ public final class FlowChain {
                 case MUL: push(p * q); break;
                 case LESS: push(asNumber(p < q)); break;
                 case SAME: push(asNumber(p == q)); break;
-                default: divide(p, q); break;
-            }
-        }
-
-        private void divide(int p, int q) {
-            if (q == 0) {
-                ending = BY_ZERO;
-            } else {
-                push(p / q);
+                default:
+                    if (q == 0) {
+                        ending = BY_ZERO;
+                    } else {
+                        push(p / q);
+                    }
             }
         }
     }
