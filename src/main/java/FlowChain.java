@@ -611,13 +611,22 @@ public final class FlowChain {
 
     /** THE TEXT and its reader: it throws NoSuchElementException where it can't go on. */
     private static final class Reader {
-        /** Kinds of TOKENS; each sign that is a TOKEN alone has its own number as kind. */
+        /**
+         * Kinds of TOKENS; a sign that is a TOKEN alone has its own number as kind, and a WORD that
+         * begins a STATEMENT has that STATEMENT's kind. All these numbers differ.
+         */
         private static final int END = 0;
-        private static final int WORD = 1;
+        private static final int NAME = 1;
         private static final int NUMBER = 2;
         private static final int UNKNOWN = 3;
+        private static final int VAR_WORD = 20;
+        private static final int ROW_WORD = 21;
+        private static final int PROC_WORD = 22;
+        private static final int ELSE_WORD = 23;
         private static final String LONE_SIGNS = ";=[]{}()+-*/<:";
         private static final int MOST_DIGITS = 9;
+        /** One for each sign at most, and one that stands behind all. */
+        private static final int MOST_TOKENS = MOST_SIGNS + 1;
 
         /** What a NAME is. */
         private static final int UNMET = 0;
@@ -629,13 +638,18 @@ public final class FlowChain {
         private final Lattice lattice;
         private final char[] signs = new char[MOST_SIGNS];
         private int length;
+        private final int[] kinds = new int[MOST_TOKENS];
+        private final int[] places = new int[MOST_TOKENS];
+        /** Of a NUMBER its value, of a NAME its letter from 0, else NONE. */
+        private final int[] values = new int[MOST_TOKENS];
+        private int tokens;
         private final int[] roles = new int[NAMES];
         private Program program;
         private int open;
+        /** The number of the TOKEN that is read next, its kind, place and value. */
+        private int at;
         private int token;
         private int place;
-        private int behind;
-        /** Of a NUMBER its value, of a NAME its letter from 0, else NONE. */
         private int value;
 
         Reader(Lattice lattice) {
@@ -646,7 +660,7 @@ public final class FlowChain {
             return length;
         }
 
-        /** Where the latest TOKEN begins. */
+        /** Where the TOKEN begins at which the reader stands. */
         int place() {
             return place;
         }
@@ -677,39 +691,125 @@ public final class FlowChain {
             program.empty();
             Arrays.fill(roles, UNMET);
             open = 0;
-            behind = 0;
-            advance();
-            readDeclarations();
+            findTokens();
+            goTo(0);
+            for (int k = 0; k < MOST_SIGNS && token >= VAR_WORD && token <= PROC_WORD; k++) {
+                readDeclaration();
+            }
             program.first = readStatements(END);
         }
 
-        private void readDeclarations() {
-            for (int k = 0; k < MOST_SIGNS; k++) {
-                if (isWord("var")) {
-                    readMark(VARIABLE, 0);
-                } else if (isWord("row")) {
-                    readMark(ROW, NAMES);
-                } else if (isWord("proc")) {
-                    readProc();
-                } else {
-                    return;
+        private void findTokens() {
+            tokens = 0;
+            int from = 0;
+            for (int k = 0; k < MOST_SIGNS && from < length; k++) {
+                int behind = endOfToken(from);
+                if (signs[from] != ' ') {
+                    addToken(from, behind);
                 }
+                from = behind;
+            }
+            kinds[tokens] = END;
+            places[tokens] = length;
+            values[tokens] = NONE;
+            tokens++;
+        }
+
+        private int endOfToken(int from) {
+            int behind = from + 1;
+            if (isLetter(from)) {
+                while (behind < length && isLetter(behind)) {
+                    behind++;
+                }
+            } else if (isDigit(from)) {
+                while (behind < length && isDigit(behind)) {
+                    behind++;
+                }
+            }
+            return behind;
+        }
+
+        private boolean isLetter(int i) {
+            return i >= 0 && i < length && signs[i] >= 'a' && signs[i] <= 'z';
+        }
+
+        private boolean isDigit(int i) {
+            return i >= 0 && i < length && signs[i] >= '0' && signs[i] <= '9';
+        }
+
+        private void addToken(int from, int behind) {
+            if (tokens >= MOST_SIGNS) {
+                return;
+            }
+            int kind = kindOf(from, behind);
+            kinds[tokens] = kind;
+            places[tokens] = from;
+            values[tokens] = kind == NAME ? signs[from] - 'a' : kind == NUMBER ? numberAt(from, behind) : NONE;
+            tokens++;
+        }
+
+        private int kindOf(int from, int behind) {
+            if (isDigit(from)) {
+                return behind - from > MOST_DIGITS ? UNKNOWN : NUMBER;
+            }
+            if (isLetter(from)) {
+                return behind - from == 1 ? NAME : kindOfWord(from, behind);
+            }
+            return LONE_SIGNS.indexOf(signs[from]) >= 0 ? signs[from] : UNKNOWN;
+        }
+
+        private int kindOfWord(int from, int behind) {
+            return isWord("var", from, behind) ? VAR_WORD
+                    : isWord("row", from, behind) ? ROW_WORD
+                    : isWord("proc", from, behind) ? PROC_WORD
+                    : isWord("if", from, behind) ? IF
+                    : isWord("else", from, behind) ? ELSE_WORD
+                    : isWord("while", from, behind) ? WHILE
+                    : isWord("in", from, behind) ? IN
+                    : isWord("out", from, behind) ? OUT
+                    : isWord("do", from, behind) ? DO : UNKNOWN;
+        }
+
+        private boolean isWord(String word, int from, int behind) {
+            boolean is = behind - from == word.length();
+            for (int k = 0; is && k < word.length(); k++) {
+                is = from + k < length && signs[from + k] == word.charAt(k);
+            }
+            return is;
+        }
+
+        private int numberAt(int from, int behind) {
+            int number = 0;
+            for (int i = from; i < behind && i < length; i++) {
+                number = 10 * number + (signs[i] - '0');
+            }
+            return number;
+        }
+
+        /** To TOKEN i; the last one, END, is never left. */
+        private void goTo(int i) {
+            at = Math.min(i, tokens - 1);
+            if (at >= 0) {
+                token = kinds[at];
+                place = places[at];
+                value = values[at];
             }
         }
 
-        private void readMark(int role, int offset) {
-            advance();
-            int name = takeNewName(role);
+        private void readDeclaration() {
+            int declared = token;
+            goTo(at + 1);
+            if (declared == PROC_WORD) {
+                int proc = takeNewName(OPEN_PROC);
+                program.setProc(proc, readBlock());
+                setRole(proc, PROC);
+                return;
+            }
+            boolean isRow = declared == ROW_WORD;
+            int name = takeNewName(isRow ? ROW : VARIABLE);
             take(':');
-            program.setMark(offset + name, takeLabel());
+            program.setMark(isRow ? NAMES + name : name, takeLabel());
             take(';');
-        }
-
-        private void readProc() {
-            advance();
-            int name = takeNewName(OPEN_PROC);
-            program.setProc(name, readBlock());
-            setRole(name, PROC);
         }
 
         private Statement readBlock() {
@@ -735,95 +835,61 @@ public final class FlowChain {
         }
 
         private Statement readStatement() {
-            if (isWord("if")) {
-                return readIf();
+            Statement made = new Statement(kindHere(), place, program.size());
+            switch (made.kind) {
+                case IF:
+                case WHILE:
+                    readBranches(made);
+                    return made;
+                case IN:
+                    goTo(at + 1);
+                    made.name = takeName(VARIABLE);
+                    take(':');
+                    made.mark = takeLabel();
+                    break;
+                case OUT:
+                    goTo(at + 1);
+                    made.to = readExpression();
+                    take(':');
+                    made.mark = takeLabel();
+                    break;
+                case DO:
+                    goTo(at + 1);
+                    made.name = takeName(PROC);
+                    break;
+                default:
+                    made.name = takeName(made.kind == TO ? ROW : VARIABLE);
+                    if (made.kind == TO) {
+                        readIndex();
+                    }
+                    take('=');
+                    made.to = readExpression();
             }
-            if (isWord("while")) {
-                return readWhile();
-            }
-            if (isWord("in")) {
-                return readIn();
-            }
-            if (isWord("out")) {
-                return readOut();
-            }
-            if (isWord("do")) {
-                return readDo();
-            }
-            return roleHere() == ROW ? readRowSetting() : readSetting();
+            take(';');
+            return made;
         }
 
-        private Statement readIf() {
-            Statement made = start(IF);
-            advance();
+        /** The kind of the STATEMENT that begins here. */
+        private int kindHere() {
+            switch (token) {
+                case IF:
+                case WHILE:
+                case IN:
+                case OUT:
+                case DO: return token;
+                default: return roleHere() == ROW ? TO : STORE;
+            }
+        }
+
+        private void readBranches(Statement made) {
+            goTo(at + 1);
             made.to = readExpression();
             made.block = readBlock();
-            if (isWord("else")) {
-                advance();
+            if (made.kind == IF && token == ELSE_WORD) {
+                goTo(at + 1);
                 made.hasElse = true;
                 made.elseBlock = readBlock();
             }
-            return made;
-        }
-
-        private Statement readWhile() {
-            Statement made = start(WHILE);
-            advance();
-            made.to = readExpression();
-            made.block = readBlock();
-            return made;
-        }
-
-        private Statement readIn() {
-            Statement made = start(IN);
-            advance();
-            made.name = takeName(VARIABLE);
-            take(':');
-            made.mark = takeLabel();
-            take(';');
-            return made;
-        }
-
-        private Statement readOut() {
-            Statement made = start(OUT);
-            advance();
-            made.to = readExpression();
-            take(':');
-            made.mark = takeLabel();
-            take(';');
-            return made;
-        }
-
-        private Statement readDo() {
-            Statement made = start(DO);
-            advance();
-            made.name = takeName(PROC);
-            take(';');
-            return made;
-        }
-
-        private Statement readSetting() {
-            Statement made = start(STORE);
-            made.name = takeName(VARIABLE);
-            take('=');
-            made.to = readExpression();
-            take(';');
-            return made;
-        }
-
-        private Statement readRowSetting() {
-            Statement made = start(TO);
-            made.name = takeName(ROW);
-            readIndex();
-            take('=');
-            made.to = readExpression();
-            take(';');
-            return made;
-        }
-
-        /** A STATEMENT that begins with the TOKEN here. */
-        private Statement start(int kind) {
-            return new Statement(kind, place, program.size());
         }
 
         /** Answers where its operations end. */
@@ -831,7 +897,7 @@ public final class FlowChain {
             readSum();
             int operation = token == '<' ? LESS : token == '=' ? SAME : NONE;
             if (operation != NONE) {
-                advance();
+                goTo(at + 1);
                 readSum();
                 program.add(operation, 0);
             }
@@ -842,7 +908,7 @@ public final class FlowChain {
             readProduct();
             for (int k = 0; k < MOST_SIGNS && (token == '+' || token == '-'); k++) {
                 int operation = token == '+' ? ADD : SUB;
-                advance();
+                goTo(at + 1);
                 readProduct();
                 program.add(operation, 0);
             }
@@ -852,7 +918,7 @@ public final class FlowChain {
             readFactor();
             for (int k = 0; k < MOST_SIGNS && (token == '*' || token == '/'); k++) {
                 int operation = token == '*' ? MUL : DIV;
-                advance();
+                goTo(at + 1);
                 readFactor();
                 program.add(operation, 0);
             }
@@ -861,7 +927,7 @@ public final class FlowChain {
         private void readFactor() {
             if (token == NUMBER) {
                 program.add(PUSH, value);
-                advance();
+                goTo(at + 1);
             } else if (token == '(') {
                 openWith('(');
                 readExpression();
@@ -886,7 +952,7 @@ public final class FlowChain {
                 throw new NoSuchElementException();
             }
             open++;
-            advance();
+            goTo(at + 1);
         }
 
         private void closeWith(int sign) {
@@ -894,14 +960,14 @@ public final class FlowChain {
                 throw new NoSuchElementException();
             }
             open--;
-            advance();
+            goTo(at + 1);
         }
 
         private void take(int sign) {
             if (token != sign) {
                 throw new NoSuchElementException();
             }
-            advance();
+            goTo(at + 1);
         }
 
         private int takeLabel() {
@@ -909,13 +975,13 @@ public final class FlowChain {
                 throw new NoSuchElementException();
             }
             int found = value;
-            advance();
+            goTo(at + 1);
             return found;
         }
 
         /** What the NAME here is, or NONE if none is here. */
         private int roleHere() {
-            return token == WORD && value >= 0 && value < NAMES ? roles[value] : NONE;
+            return token == NAME && value >= 0 && value < NAMES ? roles[value] : NONE;
         }
 
         private void setRole(int name, int role) {
@@ -930,7 +996,7 @@ public final class FlowChain {
             }
             int name = value;
             setRole(name, role);
-            advance();
+            goTo(at + 1);
             return name;
         }
 
@@ -942,60 +1008,8 @@ public final class FlowChain {
                 throw new NoSuchElementException();
             }
             int name = value;
-            advance();
+            goTo(at + 1);
             return name;
-        }
-
-        private boolean isWord(String word) {
-            boolean is = token == WORD && behind - place == word.length();
-            for (int k = 0; is && k < word.length(); k++) {
-                is = place + k < length && signs[place + k] == word.charAt(k);
-            }
-            return is;
-        }
-
-        private void advance() {
-            place = behind;
-            while (place < length && signs[place] == ' ') {
-                place++;
-            }
-            token = kindAt(place);
-            behind = Math.min(place + 1, length);
-            boolean isLong = token == WORD || token == NUMBER;
-            while (isLong && behind < length && kindAt(behind) == token) {
-                behind++;
-            }
-            if (token == NUMBER && behind - place > MOST_DIGITS) {
-                token = UNKNOWN;
-            }
-            value = token == NUMBER ? numberHere() : token == WORD ? nameHere() : NONE;
-        }
-
-        /** The kind of the TOKEN that has the sign at i. */
-        private int kindAt(int i) {
-            if (i < 0 || i >= length) {
-                return END;
-            }
-            char sign = signs[i];
-            if (sign >= 'a' && sign <= 'z') {
-                return WORD;
-            }
-            if (sign >= '0' && sign <= '9') {
-                return NUMBER;
-            }
-            return LONE_SIGNS.indexOf(sign) >= 0 ? sign : UNKNOWN;
-        }
-
-        private int numberHere() {
-            int number = 0;
-            for (int i = place; i < behind && i < length; i++) {
-                number = 10 * number + (signs[i] - '0');
-            }
-            return number;
-        }
-
-        private int nameHere() {
-            return behind - place == 1 && place < length ? signs[place] - 'a' : NONE;
         }
     }
 
@@ -1293,11 +1307,11 @@ public final class FlowChain {
         }
 
         int cell(int i) {
-            return isCell(i) ? cells[i] : 0;
+            return i >= 0 && i < CELLS ? cells[i] : 0;
         }
 
         private void setCell(int i, int v) {
-            if (isCell(i)) {
+            if (i >= 0 && i < CELLS) {
                 cells[i] = v;
             }
         }
