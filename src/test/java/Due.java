@@ -11,8 +11,14 @@ final class Due {
 
     private int asked;
     private int wrong;
+    private String sentence = "";
 
-    private static String outcome(IntSupplier call) {
+    /** What the document says: the answers that follow are due by it. */
+    void sentence(String words) {
+        sentence = words + " | ";
+    }
+
+    static String outcome(IntSupplier call) {
         try {
             return String.valueOf(call.getAsInt());
         } catch (RuntimeException e) {
@@ -25,7 +31,15 @@ final class Due {
         asked++;
         if (!got.equals(want)) {
             wrong++;
-            System.out.println(what + ": answered " + got + ", due is " + want);
+            System.out.println(sentence + what + ": answered " + got + ", due is " + want);
+        }
+    }
+
+    void same(String what, String want, String got) {
+        asked++;
+        if (!got.equals(want)) {
+            wrong++;
+            System.out.println(sentence + what + ": told " + got + ", due is " + want);
         }
     }
 
