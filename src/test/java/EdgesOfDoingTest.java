@@ -259,6 +259,17 @@ public final class EdgesOfDoingTest {
         }
         int value = left;
         due.is("the last was taken first", value, () -> x.value(0));
+        int[] left30 = new int[62];
+        left30[60] = 15;
+        x.clear();
+        Due.coded(x, left30);
+        x.verify();
+        due.is("a HALT upon 30", 0, () -> x.run(600));
+        x.clear();
+        Due.coded(x, pairs);
+        x.verify();
+        due.is("then it is empty again", 0, () -> x.run(600));
+        due.is("the last was taken first again", value, () -> x.value(0));
         // 28 within Es of 9 levels, and the index before them
         StringBuilder text = new StringBuilder("row r:0;r[1]=");
         for (int k = 0; k < 8; k++) {

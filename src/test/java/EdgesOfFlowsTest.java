@@ -93,6 +93,13 @@ public final class EdgesOfFlowsTest {
         bad("var h:1;row r:0;!out r[r[r[h]]]:0;");
         bad("row q:1;row r:0;!out r[q[0]]:0;");
         good("row q:1;row r:0;out r[r[0]]:0;");
+        bad("var h:1;!out h+l:0;");
+        bad("var h:1;!out l+h:0;");
+        bad("var h:1;!out l+h+l:0;");
+        bad("var h:1;row r:0;!out h+r[0]:0;");
+        bad("var h:1;row r:0;!out r[h]+r[l]:0;");
+        bad("row q:1;row r:0;!out q[0]+r[0]:0;");
+        bad("row q:1;!out q[0]+l:0;");
         bad(Due.diamond(), "var a:1;var b:2;!out a+b:1;");
         bad(Due.diamond(), "var a:1;var b:2;!out b+a:2;");
         good(Due.diamond(), "var a:1;var b:2;out a+b:3;");
@@ -189,6 +196,10 @@ public final class EdgesOfFlowsTest {
         bad(Due.diamond(), "var a:1;var b:2;if 0{c=a;}else{c=b;}!out c:2;");
         good(Due.diamond(), "var a:1;var b:2;if 0{c=a;}else{c=b;}out c:3;");
         bad("var h:1;if 0{if 0{if 0{a=h;}}}!out a:0;");
+        good("var h:1;if 0{a=h;if 0{b=h;}}else{out a+b:0;}");
+        bad("var h:1;if 0{a=h;}else{if 0{}else{}}!out a:0;");
+        bad("var h:1;if 0{if 0{}else{a=h;}}else{if 0{}}!out a:0;");
+        good("var h:1;a=h;if 0{if 0{a=0;}else{a=0;}}else{if 0{a=0;}else{a=0;}}out a:0;");
         bad("var h:1;if 0{z=h;}!out z:0;");
     }
 
@@ -206,6 +217,9 @@ public final class EdgesOfFlowsTest {
         bad("var h:1;while 0{while 0{!out a:0;}a=h;}");
         bad("var h:1;while 0{while b{!out 1:0;}b=a;a=h;}");
         good("while a{a=a+1;out a:0;}out a:0;");
+        bad("var h:1;a=h;while 0{a=0;if 0{}}!out a:0;");
+        bad("var h:1;a=h;while 0{a=0;while 0{}}!out a:0;");
+        bad("var h:1;a=h;if 0{while 0{a=0;}}else{a=0;}!out a:0;");
         bad(Due.diamond(), "var p:1;var q:2;while a{a=p;if b{!out 1:1;}b=q;}");
     }
 
@@ -238,6 +252,11 @@ public final class EdgesOfFlowsTest {
         bad("var h:1;proc p{!out a:0;}while 0{do p;a=h;}");
         bad("var h:1;proc p{!out a:0;}proc q{do p;a=h;do p;}do q;");
         good("var h:1;proc p{}proc q{do p;}if h{do q;}out 1:0;");
+        // as deep as 240 signs go
+        String open = Due.times("if1{", 7);
+        String shut = Due.times("}", 8);
+        bad(Due.chain(2), "proc a{" + open + "in x:1;!out x:0;" + shut + "proc b{" + open + "do a;" + shut + "proc c{" + open + "do b;"
+                + shut + "proc d{" + open + "do c;" + shut + "if1{" + open.substring(8) + "do d;" + shut.substring(2));
     }
 
     private static void firstTime() {

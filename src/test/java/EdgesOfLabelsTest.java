@@ -116,6 +116,9 @@ public final class EdgesOfLabelsTest {
         FlowChain bad = with(5, 0, 1, 0, 2, 1, 3, 2, 3, 1, 4, 2, 4);
         due.fails("two above both, none of them the least", Due.UNSUPPORTED, bad::seal);
         due.told("two above both", 12, 7, bad);
+        FlowChain first = with(6, 4, 1, 4, 2, 1, 0, 2, 0, 1, 3, 2, 3, 0, 5, 3, 5);
+        due.fails("0 is one of two above both", Due.UNSUPPORTED, first::seal);
+        due.told("0 is one of two above both", 3, 7, first);
     }
 
     private static void meets() {
@@ -132,6 +135,11 @@ public final class EdgesOfLabelsTest {
         FlowChain bad = with(6, 0, 2, 0, 3, 1, 2, 1, 3, 2, 4, 3, 4, 5, 0, 5, 1);
         due.fails("two under both, none of them the highest", Due.UNSUPPORTED, bad::seal);
         due.told("0 and 1 have no JOIN", 1, 7, bad);
+        FlowChain first = with(6, 5, 0, 5, 3, 0, 1, 0, 2, 3, 1, 3, 2, 1, 4, 2, 4);
+        due.fails("0 is one of two under both", Due.UNSUPPORTED, first::seal);
+        due.told("0 is one of two under both", 3, 7, first);
+        FlowChain apart = with(6, 5, 0, 5, 3, 0, 1, 0, 2, 3, 1, 3, 2, 1, 4, 2, 4, 0, 3);
+        due.is("none of them is left out", 5, apart::seal);
     }
 
     private static void sealable() {

@@ -195,6 +195,10 @@ public final class EdgesOfRefusalsTest {
         FlowChain x = Due.coded(Due.chain(2), 15, 0, 11, 0, 15, 0);
         x.verify();
         due.fails("no ZERO, q not there", Due.ELEMENT, () -> x.region(0, 3));
+        FlowChain one = Due.coded(Due.chain(2), 15, 0);
+        one.verify();
+        due.fails("no ZERO, q 1 of 1", Due.ELEMENT, () -> one.region(0, 1));
+        due.fails("no ZERO, q 0 of 1", Due.UNSUPPORTED, () -> one.region(0, 0));
         due.fails("no HEIGHT, q not there", Due.ELEMENT, () -> x.region(1, 63));
         due.fails("no ZERO, q there", Due.UNSUPPORTED, () -> x.region(0, 2));
         due.fails("no HEIGHT, q there", Due.UNSUPPORTED, () -> x.region(1, 2));

@@ -156,6 +156,18 @@ public final class EdgesOfTextTest {
         bad("!procp{}");
         bad("a=1!A;");
         bad("!" + Due.times("z", 240));
+        String[] words = {"var a:0;", "row a:0;", "proc a{}", "if 1{}", "while 1{}", "in a:0;", "out a:0;", "do p;"};
+        for (String word : words) {
+            int end = word.indexOf(' ');
+            good("proc p{}" + word);
+            for (int k = 0; k < end; k++) {
+                bad("proc p{}!" + word.substring(0, k) + "x" + word.substring(k + 1));
+                bad("proc p{}!" + word.substring(0, k) + "x" + word.substring(k));
+            }
+            bad("proc p{}!" + word.substring(0, end) + "x" + word.substring(end));
+        }
+        bad("if 1{}!xlse{}");
+        bad("if 1{}!elsx{}");
         good("a=z;");
         bad("a=!`;");
         bad("a=!{;");
@@ -433,6 +445,11 @@ public final class EdgesOfTextTest {
         bad("row r:0;if1{r[(r[(r[(1)])])]=(((((((!(1))))))));}");
         bad("row r:0;if1{r[(r[(r[((!(1)))])])]=1;}");
         good("a=" + Due.times("(1)+", 30) + "1;");
+        FlowChain x = Due.put(Due.chain(1), Due.times("if1{", 8));
+        due.fails("none is closed", Due.ELEMENT, x::compile);
+        due.told("none is closed", 32, 8, x);
+        Due.put(x, Due.times("if1{", 8) + Due.times("}", 8));
+        due.is("in the next text none is open", 17, x::compile);
         good(Due.times("if1{}", 15) + Due.times("if1{", 8) + Due.times("}", 8));
         good(Due.times("if1{", 7) + "if1{}else{}" + Due.times("}", 7));
         bad(Due.times("if1{", 8) + "if1!{}else{}" + Due.times("}", 8));
@@ -512,5 +529,15 @@ public final class EdgesOfTextTest {
             due.is("empty", 0, () -> x.count(2));
             due.is("an empty one is read then", 1, x::compile);
         }
+        for (int round = 0; round < 9; round++) {
+            Due.put(x, Due.times("if a{b=c*(d-e)/(f+g)<h;} ", 4) + Due.times(" ", 140));
+            due.is("as long as it may be, again and again", 57, x::compile);
+            due.is("its first", 0, () -> x.instruction(0, true));
+            due.is("its last x", 7, () -> x.instruction(53, true));
+            due.is("its last operation", 9, () -> x.instruction(54, false));
+        }
+        Due.put(x, Due.times("a=1;", 60));
+        due.fails("240 TOKENS", Due.BOUNDS, x::compile);
+        due.told("240 TOKENS", 64, 10, x);
     }
 }

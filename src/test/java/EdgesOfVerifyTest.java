@@ -191,6 +191,10 @@ public final class EdgesOfVerifyTest {
         bad("GOTO upon one", 1, 4, 0, 0, 12, 2, 15, 0);
         good("ZERO upon one", 3, 0, 0, 11, 2, 15, 0);
         bad("ZERO upon two", 2, 4, 0, 0, 0, 0, 11, 3, 15, 0);
+        good("GOTO behind TO", 5, 0, 0, 0, 0, 4, 0, 12, 4, 15, 0);
+        good("GOTO behind STORE", 4, 0, 0, 2, 0, 12, 3, 15, 0);
+        good("GOTO behind OUT", 4, 0, 0, 14, 0, 12, 3, 15, 0);
+        bad("GOTO behind AT", 2, 4, 0, 0, 3, 0, 12, 3, 15, 0);
         bad("ZERO upon 30", 30, 4, high(30, 11));
         bad("GOTO upon 30", 30, 4, high(30, 12));
         good("HALT upon one", 2, 0, 0, 15, 0);
@@ -231,6 +235,7 @@ public final class EdgesOfVerifyTest {
         region("INSTRUCTION 0", verified(1, 0, 11, 3, 15, 0, 0, 0, 11, 6, 12, 0, 12, 0), 4, 0, 5, 6);
         // a way that comes back over it does not make it its own NEXT
         region("not itself", verified(0, 0, 11, 3, 12, 0, 15, 0), 1, 3, 0, 1, 2);
+        region("over the first", verified(1, 0, 11, 6, 1, 1, 11, 0, 0, 0, 2, 0, 15, 0), 3, 6, 0, 1, 2, 3, 4, 5);
         region("not what only one way has", verified(0, 0, 11, 5, 0, 0, 11, 6, 12, 6, 12, 6, 15, 0), 1, 6, 2, 3, 4, 5);
         region("of a ZERO in that", verified(0, 0, 11, 5, 0, 0, 11, 6, 12, 6, 12, 6, 15, 0), 3, 6, 4);
     }
@@ -242,6 +247,11 @@ public final class EdgesOfVerifyTest {
         region("a HALT that can't be reached", verified(0, 0, 11, 0, 12, 2, 15, 0), 1, -1, 0, 1, 2);
         region("one side never ends", verified(0, 0, 11, 3, 12, 2, 15, 0), 1, 3, 2);
         region("the other side never ends", verified(0, 0, 11, 3, 15, 0, 12, 3), 1, 2, 3);
+        FlowChain again = verified(0, 0, 11, 2, 15, 0, 15, 0);
+        again.clear();
+        Due.coded(again, 0, 0, 11, 3, 12, 2, 12, 3);
+        again.verify();
+        region("where HALTs were in an earlier CODE", again, 1, -1, 2, 3);
         region("far apart", verified(0, 0, 11, 6, 0, 1, 2, 0, 12, 5, 15, 0, 15, 0), 1, -1, 2, 3, 4, 5, 6);
     }
 
@@ -296,6 +306,12 @@ public final class EdgesOfVerifyTest {
         FlowChain y = Due.coded(Due.diamond(), 13, 1, 11, 6, 0, 1, 11, 5, 12, 5, 12, 6, 15, 0);
         y.verify();
         levels("the LEVEL of that, too", y, 0, 0, 1, 1, 1, 1, 0);
+        // the LEVEL rises when what it is for has been looked at
+        FlowChain late = coded(0, 1, 2, 1, 13, 2, 11, 5, 12, 0, 15, 0);
+        late.verify();
+        levels("a loop whose ZERO comes last", late, 2, 2, 2, 2, 2, 0);
+        due.is("what is put at that LEVEL", 2, () -> late.map(1, 28));
+        due.is("what is set at that LEVEL", 2, () -> late.map(5, 1));
         levels("one behind the other", verified(13, 2, 11, 3, 12, 3, 13, 1, 11, 6, 12, 6, 15, 0), 0, 0, 2, 0, 0, 1, 0);
     }
 
@@ -318,6 +334,17 @@ public final class EdgesOfVerifyTest {
             due.is("the LEVEL is BOTTOM", 1, () -> x.map(at, 26));
         }
         due.is("the STACK has no more than it needs", 1, () -> x.map(1, 28));
+        FlowChain again = coded(1, 0, 11, 5, 13, 2, 2, 0, 12, 0, 15, 0);
+        again.verify();
+        due.is("round to the first", 2, () -> again.map(0, 0));
+        again.clear();
+        Due.coded(again, 1, 0, 11, 5, 13, 0, 2, 0, 12, 0, 15, 0);
+        again.verify();
+        for (int i = 0; i < 6; i++) {
+            int at = i;
+            due.is("nothing is left of an earlier CODE", 0, () -> again.map(at, 0));
+            due.is("nor of its LEVELS", 0, () -> again.map(at, 26));
+        }
     }
 
     private static void puts() {
@@ -380,6 +407,22 @@ public final class EdgesOfVerifyTest {
         due.is("the JOIN of both ways", 3, () -> x.map(7, 0));
         due.is("one way", 1, () -> x.map(4, 0));
         due.is("the other way", 0, () -> x.map(5, 0));
+        FlowChain fork = coded(13, 1, 2, 0, 0, 0, 11, 5, 15, 0, 15, 0);
+        fork.fix(25, false, 2);
+        fork.verify();
+        for (int i = 4; i <= 5; i++) {
+            int at = i;
+            due.is("each of both that can be next", 1, () -> fork.map(at, 0));
+            due.is("a FIXED one, too", 2, () -> fork.map(at, 25));
+        }
+        FlowChain back = coded(12, 2, 15, 0, 13, 1, 2, 0, 0, 0, 11, 1, 12, 1);
+        back.verify();
+        due.is("one before it", 1, () -> back.map(1, 0));
+        due.is("one behind it", 1, () -> back.map(6, 0));
+        FlowChain first = coded(13, 1, 2, 0, 0, 0, 11, 0, 15, 0);
+        first.verify();
+        due.is("the first", 1, () -> first.map(0, 0));
+        due.is("the one behind the ZERO to the first", 1, () -> first.map(4, 0));
         FlowChain loop = coded(1, 0, 11, 5, 13, 2, 2, 0, 12, 0, 15, 0);
         loop.verify();
         due.is("round to the first", 2, () -> loop.map(0, 0));
@@ -440,6 +483,10 @@ public final class EdgesOfVerifyTest {
         bad("the first in order, not by the way", 4, 6,
                 13, 2, 2, 0, 12, 6, 1, 0, 14, 0, 15, 0, 1, 0, 14, 1, 12, 3);
         good("one without a HEIGHT may be so", 1, 15, 0, 13, 2, 14, 0, 15, 0);
+        bad("INSTRUCTION 0, in a loop", 0, 6, 13, 1, 2, 0, 13, 2, 11, 5, 12, 0, 15, 0);
+        FlowChain ground = coded(0, 0, 1, 0, 4, 0, 15, 0);
+        ground.fix(0, false, 0);
+        due.is("FIXED at BOTTOM, to a ROW of BOTTOM", 4, ground::verify);
     }
 
     private static void notThere() {
