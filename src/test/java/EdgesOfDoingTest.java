@@ -169,6 +169,11 @@ public final class EdgesOfDoingTest {
         both("a=1;", 0, 1);
         both("while a<3{a=a+1;}", 0, 3);
         due.is("a HALT before others", 0, () -> coded(15, 0, 0, 0, 15, 0).run(600));
+        // as deep as 64 INSTRUCTIONS go: 29 BLOCKS within BLOCKS, and three PROCS
+        String open = Due.times("if1{", 7);
+        String shut = Due.times("}", 8);
+        both("proc b{" + open + "a=2;" + shut + "proc c{" + open + "do b;" + shut + "proc d{" + open + "do c;" + shut
+                + "if1{" + open + "do d;" + shut, 0, 2);
     }
 
     private static void endsByNought() {

@@ -302,6 +302,9 @@ public final class EdgesOfTextTest {
         bad("if 1{}!;");
         bad("if 1{}else{}!else{}");
         bad("if 1{}a=1;!else{}");
+        bad("!else{}");
+        bad("!else a{}");
+        bad("var a:0;!else{}");
         bad("while 1{}!else{}");
         bad("while !{}");
         bad("if !{}");
